@@ -704,7 +704,7 @@ public final class FoldedFamily {
             for (int end = knownEnds; end <= text.length(); end++) {
                 for (int d = 0; d <= LONGEST_PART && d <= end; d++) {
                     for (int v = grammar.size() - 1; v >= 0; v--) {
-                        scores[place(v, end - d, d)] = greatest(v, end - d, d);
+                        scores[place(v, end - d, d)] = reckon(v, end - d, d);
                     }
                 }
             }
@@ -715,55 +715,75 @@ public final class FoldedFamily {
             return scores[place(v, i, d)];
         }
 
-        /**
-         * The first of the ways that attain the value: for B the length of the first part, for
-         * others the number of the target; NONE if there is no such way, as from E.
-         */
-        int bestWay(int v, int i, int d) {
-            int value = of(v, i, d);
-            for (int way = 0; way < ways(v, d) && value != NONE; way++) {
-                if (through(v, way, i, d) == value) {
-                    return way;
+        /** Which of the targets of v, no B, is the first to attain the value; NONE if none does. */
+        int bestTarget(int v, int i, int d) {
+            if (of(v, i, d) == NONE) {
+                return NONE;
+            }
+            int kind = grammar.kindOf(v);
+            int wanted = of(v, i, d) - emitted(v, i, d);
+            for (int k = 0; k < grammar.targetCount(v); k++) {
+                if (throughTarget(v, k, i + lettersBefore(kind), d - lettersOf(kind)) == wanted) {
+                    return k;
                 }
             }
             return NONE;
         }
 
-        private int greatest(int v, int i, int d) {
-            if (grammar.kindOf(v) == E) {
-                return d == 0 ? 0 : NONE;
+        /** The least length of the first part with which v, a B, attains its value, or NONE. */
+        int bestSplit(int v, int i, int d) {
+            int wanted = of(v, i, d);
+            for (int first = 0; first <= d && wanted != NONE; first++) {
+                if (throughSplit(v, first, i, d) == wanted) {
+                    return first;
+                }
             }
-            int score = NONE;
-            for (int way = 0; way < ways(v, d); way++) {
-                score = Math.max(score, through(v, way, i, d));
+            return NONE;
+        }
+
+        private int reckon(int v, int i, int d) {
+            switch (grammar.kindOf(v)) {
+                case E:
+                    return d == 0 ? 0 : NONE;
+                case B:
+                    return greatestOfSplits(v, i, d);
+                default:
+                    return greatestOfTargets(v, i, d);
             }
-            return score;
         }
 
-        private int ways(int v, int d) {
-            return grammar.kindOf(v) == B ? d + 1 : grammar.targetCount(v);
+        private int greatestOfSplits(int v, int i, int d) {
+            int greatest = NONE;
+            for (int first = 0; first <= d; first++) {
+                greatest = Math.max(greatest, throughSplit(v, first, i, d));
+            }
+            return greatest;
         }
 
-        private int through(int v, int way, int i, int d) {
-            return grammar.kindOf(v) == B
-                    ? throughSplit(v, way, i, d)
-                    : throughTarget(v, way, i, d);
-        }
-
-        /** The greatest score of a derivation from v that steps to target k. */
-        private int throughTarget(int v, int k, int i, int d) {
+        private int greatestOfTargets(int v, int i, int d) {
             int kind = grammar.kindOf(v);
-            if (d < lettersOf(kind)) {
+            int restBegin = i + lettersBefore(kind);
+            int restLetters = d - lettersOf(kind);
+            if (restLetters < 0) {
                 return NONE;
             }
-            int rest = of(grammar.targetOf(v, k), i + lettersBefore(kind), d - lettersOf(kind));
-            return rest == NONE ? NONE : rest + grammar.stepScore(v, k) + emitted(v, i, d);
+            int greatest = NONE;
+            for (int k = 0; k < grammar.targetCount(v); k++) {
+                greatest = Math.max(greatest, throughTarget(v, k, restBegin, restLetters));
+            }
+            return greatest == NONE ? NONE : greatest + emitted(v, i, d);
         }
 
         private int throughSplit(int v, int first, int i, int d) {
             int one = of(grammar.targetOf(v, 0), i, first);
             int other = of(grammar.targetOf(v, 1), i + first, d - first);
             return one == NONE || other == NONE ? NONE : one + other;
+        }
+
+        /** What the step to target k and the rest, which that derives, score together. */
+        private int throughTarget(int v, int k, int restBegin, int restLetters) {
+            int rest = of(grammar.targetOf(v, k), restBegin, restLetters);
+            return rest == NONE ? NONE : rest + grammar.stepScore(v, k);
         }
 
         /** The score of the letters that v itself emits at the ends of the part. */
@@ -782,7 +802,7 @@ public final class FoldedFamily {
             }
         }
 
-        /** Of parts with d letters there is one fewer than of those with d - 1, hence the triangle. */
+        /** There is one part fewer with d letters than with d - 1, hence the triangle. */
         private static int place(int v, int i, int d) {
             return v * MOST_PARTS + d * (MOST_TEXT + 1) - d * (d - 1) / 2 + i;
         }
@@ -908,17 +928,27 @@ public final class FoldedFamily {
                 return;
             }
             note(v, i, d);
-            int way = values.bestWay(v, i, d);
-            if (way == NONE) {
-                return;
-            }
-            Grammar grammar = values.grammar();
-            int kind = grammar.kindOf(v);
+            int kind = values.grammar().kindOf(v);
             if (kind == B) {
-                writeFrom(values, grammar.targetOf(v, 0), i, way);
-                writeFrom(values, grammar.targetOf(v, 1), i + way, d - way);
-            } else {
-                int w = grammar.targetOf(v, way);
+                writeParts(values, v, i, d);
+            } else if (kind != E) {
+                writeRest(values, v, i, d);
+            }
+        }
+
+        private void writeParts(Values values, int v, int i, int d) {
+            int first = values.bestSplit(v, i, d);
+            if (first != NONE) {
+                writeFrom(values, values.grammar().targetOf(v, 0), i, first);
+                writeFrom(values, values.grammar().targetOf(v, 1), i + first, d - first);
+            }
+        }
+
+        private void writeRest(Values values, int v, int i, int d) {
+            int k = values.bestTarget(v, i, d);
+            if (k != NONE) {
+                int kind = values.grammar().kindOf(v);
+                int w = values.grammar().targetOf(v, k);
                 writeFrom(values, w, i + lettersBefore(kind), d - lettersOf(kind));
             }
         }
