@@ -1,27 +1,80 @@
-/** Compares answers with those that are due, and ends a test with exit code 1 if one differed. */
+import java.util.function.IntUnaryOperator;
+
+/**
+ * Compares answers with those that are due, tells the sentence of the document that a wrong answer
+ * breaks, and ends a test with exit code 1 if there was one.
+ */
 final class Check {
     static final int NONE = -1000000;
 
+    /** How many calls the document allows an object. */
+    static final int MOST_CALLS = 512;
+
+    private static String sentence = "";
+    private static int askedBefore;
     private static int asked;
     private static int wrong;
 
     private Check() {
     }
 
-    static void due(String call, int got, int want) {
-        asked++;
-        if (got != want) {
+    /** What is asked from here on stands for these words of the document, and something must be. */
+    static void sentence(String words) {
+        closeSentence();
+        sentence = words;
+        askedBefore = asked;
+    }
+
+    private static void closeSentence() {
+        if (!sentence.isEmpty() && asked == askedBefore) {
             wrong++;
-            System.out.println(call + " answered " + got + ", due is " + want);
+            System.out.println("[" + sentence + "] was not asked for");
         }
     }
 
+    static void due(String call, int got, int want) {
+        dueRow(call, String.valueOf(got), String.valueOf(want));
+    }
+
     static void due(String call, boolean got, boolean want) {
-        due(call, got ? 1 : 0, want ? 1 : 0);
+        dueRow(call, String.valueOf(got), String.valueOf(want));
+    }
+
+    static void dueNone(String call, int got) {
+        due(call, got, NONE);
+    }
+
+    static void dueRow(String call, String got, String want) {
+        asked++;
+        if (!got.equals(want)) {
+            wrong++;
+            System.out.println("[" + sentence + "] " + call + " answered " + got + ", due is " + want);
+        }
+    }
+
+    /** No call that needs a grammar finds one. */
+    static void dueNoGrammar(FoldedFamily x) {
+        dueNone("kind(0)", x.kind(0));
+        dueNone("node(0)", x.node(0));
+        dueNone("target(0, 0)", x.target(0, 0));
+        dueNone("step(0, 0)", x.step(0, 0));
+        dueNone("emits(1, 0, 0)", x.emits(1, 0, 0));
+        dueNone("value(0, 0, 0)", x.value(0, 0, 0));
+        dueNone("scan(1, -1000)", x.scan(1, -1000));
+    }
+
+    static void dueNoHits(FoldedFamily x) {
+        for (int what = 0; what <= 3; what++) {
+            dueNone("hit(0, " + what + ")", x.hit(0, what));
+        }
+        for (int what = 0; what <= 2; what++) {
+            dueNone("derived(0, 0, " + what + ")", x.derived(0, 0, what));
+        }
     }
 
     /** Ends the test's main method. */
     static void end() {
+        closeSentence();
         if (asked == 0 || wrong != 0) {
             System.out.println(wrong + " of " + asked + " answers are not as due");
             System.exit(1);
@@ -30,6 +83,17 @@ final class Check {
 
     static int wrong() {
         return wrong;
+    }
+
+    /**
+     * Numbers outside 0 .. last: next to both ends, at both ends of int, and such as are inside when
+     * their upper bits or their sign are lost.
+     */
+    static int[] outside(int last) {
+        return new int[] {
+            -1, -2, -3, -last - 1, last + 1, last + 2, 100, 256, 1 << 16, 1 << 28, 1 << 30,
+            Integer.MIN_VALUE, Integer.MIN_VALUE + 1, Integer.MIN_VALUE + last,
+            Integer.MAX_VALUE - 1, Integer.MAX_VALUE};
     }
 
     /** A family with these marks and, in every column, these letters. */
@@ -60,9 +124,9 @@ final class Check {
     }
 
     /** What a call for each number from 0 on answers, up to the first NONE. */
-    static String row(java.util.function.IntUnaryOperator call) {
+    static String row(IntUnaryOperator call) {
         StringBuilder row = new StringBuilder();
-        for (int k = 0; k < 1000; k++) {
+        for (int k = 0; k < MOST_CALLS; k++) {
             int answer = call.applyAsInt(k);
             if (answer == NONE) {
                 break;
@@ -72,11 +136,31 @@ final class Check {
         return row.toString();
     }
 
-    static void dueRow(String call, String got, String want) {
-        asked++;
-        if (!got.equals(want)) {
-            wrong++;
-            System.out.println(call + " answered " + got + ", due is " + want);
+    /** The hits: where each begins and ends, and its score. */
+    static String hits(FoldedFamily x) {
+        StringBuilder all = new StringBuilder();
+        for (int k = 0; k < MOST_CALLS; k++) {
+            int begin = x.hit(k, 0);
+            if (begin == NONE) {
+                break;
+            }
+            all.append(k == 0 ? "" : " ").append(begin).append('-')
+                    .append(begin + x.hit(k, 1)).append(':').append(x.hit(k, 2));
         }
+        return all.toString();
+    }
+
+    /** The states of hit k with where their parts begin and how many letters these have. */
+    static String derivation(FoldedFamily x, int k) {
+        StringBuilder all = new StringBuilder();
+        for (int n = 0; n < MOST_CALLS; n++) {
+            int state = x.derived(k, n, 0);
+            if (state == NONE) {
+                break;
+            }
+            all.append(n == 0 ? "" : " ").append(state).append('@')
+                    .append(x.derived(k, n, 1)).append('+').append(x.derived(k, n, 2));
+        }
+        return all.toString();
     }
 }

@@ -1,6 +1,7 @@
 import java.util.ArrayList;
 import java.util.List;
 import java.util.Random;
+import java.util.function.Consumer;
 
 /** Promises 1 to 15 together: runs of up to 512 calls beside the plain reading of the document. */
 public final class ReferenceTest {
@@ -13,15 +14,34 @@ public final class ReferenceTest {
     private static final List<String> BALANCED = balancedMarks();
 
     private final Random random;
-    private final FoldedFamily program;
+    private final int rows;
     private final PlainFamily plain;
     private final String name;
+    private final List<Consumer<FoldedFamily>> changes = new ArrayList<>();
+    private FoldedFamily program;
+    private int calls;
+    private boolean renewed;
 
     private ReferenceTest(int seed, int rows) {
         random = new Random(seed);
+        this.rows = rows;
         program = new FoldedFamily(rows);
         plain = new PlainFamily(rows);
         name = "seed " + seed + ", rows " + rows + ": ";
+    }
+
+    /** The object for one call: after 512 of them another, which the same changes were made to. */
+    private FoldedFamily program() {
+        if (calls == Check.MOST_CALLS) {
+            program = new FoldedFamily(rows);
+            for (Consumer<FoldedFamily> change : changes) {
+                change.accept(program);
+            }
+            calls = Math.min(changes.size(), Check.MOST_CALLS - 1);
+            renewed = true;
+        }
+        calls++;
+        return program;
     }
 
     public static void main(String[] args) {
@@ -74,7 +94,7 @@ public final class ReferenceTest {
     }
 
     private void compareRun() {
-        for (int call = 0; call < 512; call++) {
+        while (!renewed) {
             switch (random.nextInt(16)) {
                 case 0 -> seldomColumn();
                 case 1 -> refusedColumn();
@@ -155,12 +175,12 @@ public final class ReferenceTest {
     private void addColumn(char mark) {
         int letters = random.nextInt();
         Check.due(name + "column(" + mark + ", " + letters + ")",
-                program.column(mark, letters), plain.column(mark, letters));
+                program().column(mark, letters), plain.column(mark, letters));
+        changes.add(x -> x.column(mark, letters));
     }
 
     private void newFamily() {
-        program.clear();
-        plain.clear();
+        clear();
         String marks = BALANCED.get(random.nextInt(BALANCED.size()));
         for (int c = 0; c < marks.length(); c++) {
             addColumn(marks.charAt(c));
@@ -170,61 +190,70 @@ public final class ReferenceTest {
 
     private void seldomClear() {
         if (random.nextInt(3) == 0) {
-            program.clear();
-            plain.clear();
+            clear();
         }
+    }
+
+    private void clear() {
+        program().clear();
+        plain.clear();
+        changes.add(FoldedFamily::clear);
     }
 
     private void seldomErase() {
         if (random.nextInt(3) == 0) {
-            program.erase();
+            program().erase();
             plain.erase();
+            changes.add(FoldedFamily::erase);
         }
     }
 
     private void build() {
-        Check.due(name + "build()", program.build(), plain.build());
+        Check.due(name + "build()", program().build(), plain.build());
+        changes.add(FoldedFamily::build);
     }
 
     private void kindAndNode(int v) {
-        Check.due(name + "kind(" + v + ")", program.kind(v), plain.kind(v));
-        Check.due(name + "node(" + v + ")", program.node(v), plain.node(v));
+        Check.due(name + "kind(" + v + ")", program().kind(v), plain.kind(v));
+        Check.due(name + "node(" + v + ")", program().node(v), plain.node(v));
     }
 
     private void target(int v, int k) {
-        Check.due(name + "target(" + v + ", " + k + ")", program.target(v, k), plain.target(v, k));
+        Check.due(name + "target(" + v + ", " + k + ")", program().target(v, k), plain.target(v, k));
     }
 
     private void step(int v, int k) {
-        Check.due(name + "step(" + v + ", " + k + ")", program.step(v, k), plain.step(v, k));
+        Check.due(name + "step(" + v + ", " + k + ")", program().step(v, k), plain.step(v, k));
     }
 
     private void emits(int v, int a, int b) {
         Check.due(name + "emits(" + v + ", " + a + ", " + b + ")",
-                program.emits(v, a, b), plain.emits(v, a, b));
+                program().emits(v, a, b), plain.emits(v, a, b));
     }
 
     private void feed(int letters, int n) {
         Check.due(name + "feed(" + letters + ", " + n + ")",
-                program.feed(letters, n), plain.feed(letters, n));
+                program().feed(letters, n), plain.feed(letters, n));
+        changes.add(x -> x.feed(letters, n));
     }
 
     private void value(int v, int i, int d) {
         Check.due(name + "value(" + v + ", " + i + ", " + d + ")",
-                program.value(v, i, d), plain.value(v, i, d));
+                program().value(v, i, d), plain.value(v, i, d));
     }
 
     private void scan(int width, int threshold) {
         Check.due(name + "scan(" + width + ", " + threshold + ")",
-                program.scan(width, threshold), plain.scan(width, threshold));
+                program().scan(width, threshold), plain.scan(width, threshold));
+        changes.add(x -> x.scan(width, threshold));
     }
 
     private void hit(int k, int what) {
-        Check.due(name + "hit(" + k + ", " + what + ")", program.hit(k, what), plain.hit(k, what));
+        Check.due(name + "hit(" + k + ", " + what + ")", program().hit(k, what), plain.hit(k, what));
     }
 
     private void derived(int k, int n, int what) {
         Check.due(name + "derived(" + k + ", " + n + ", " + what + ")",
-                program.derived(k, n, what), plain.derived(k, n, what));
+                program().derived(k, n, what), plain.derived(k, n, what));
     }
 }

@@ -53,7 +53,7 @@ public final class RoomTest {
     }
 
     private static void useAll(FoldedFamily x) {
-        for (int run = 0; run < 30; run++) {
+        for (int run = 0; run < 9; run++) {
             x.clear();
             x.erase();
             for (int c = 0; c < 8; c++) {

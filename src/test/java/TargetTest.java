@@ -3,13 +3,22 @@ public final class TargetTest {
     public static void main(String[] args) {
         everyKindOfNode();
         noColumns();
-        wrongInputsAreRefused();
+        StepEdges.due("7", "target", FoldedFamily::target);
+        StateEdges.due("7", "target 0", (x, v) -> x.target(v, 0));
         Check.end();
     }
 
+    private static void dueTargets(FoldedFamily x, String... due) {
+        for (int v = 0; v < due.length; v++) {
+            int state = v;
+            Check.dueRow("targets of " + v, Check.row(k -> x.target(state, k)), due[v]);
+        }
+        Check.dueNone("kind behind the last", x.kind(due.length));
+    }
+
     private static void everyKindOfNode() {
-        FoldedFamily x = Check.built(2, "(.)().", 0, 0, 04, 0, 04, 0);
-        String[] due = {
+        Check.sentence("7: Target k (from 0) of state v");
+        dueTargets(Check.built(2, "(.)().", 0, 0, 04, 0, 04, 0),
             "1 2 3 4", "1 2 3 4", "2 3 4",
             "5 6", "5 6", "5 6",
             "7 18",
@@ -19,34 +28,11 @@ public final class TargetTest {
             "",
             "19 20 21 22 23", "19 20 21 22 23",
             "24 25 26", "24 25 26", "24 25 26", "24 25 26", "24 25 26", "25 26",
-            ""};
-        for (int v = 0; v < due.length; v++) {
-            int state = v;
-            Check.dueRow("targets of " + v, Check.row(k -> x.target(state, k)), due[v]);
-        }
-        Check.due("kind(27)", x.kind(27), Check.NONE);
+            "");
     }
 
     private static void noColumns() {
-        FoldedFamily x = Check.built(1, "");
-        String[] due = {"1 2 3", "1 2 3", "2 3", ""};
-        for (int v = 0; v < due.length; v++) {
-            int state = v;
-            Check.dueRow("targets of " + v, Check.row(k -> x.target(state, k)), due[v]);
-        }
-    }
-
-    private static void wrongInputsAreRefused() {
-        FoldedFamily x = Check.built(1, "()");
-        int[] wrong = {-1, 6, 7, Integer.MIN_VALUE, Integer.MAX_VALUE};
-        Check.due("target(0, 5)", x.target(0, 5), 6);
-        for (int k : wrong) {
-            Check.due("target(0, " + k + ")", x.target(0, k), Check.NONE);
-        }
-        for (int v : new int[] {-1, 10, 43, Integer.MIN_VALUE, Integer.MAX_VALUE}) {
-            Check.due("target(" + v + ", 0)", x.target(v, 0), Check.NONE);
-        }
-        x.column('.', 0);
-        Check.due("target(0, 0) without a grammar", x.target(0, 0), Check.NONE);
+        Check.sentence("7: targets where there are no columns");
+        dueTargets(Check.built(1, ""), "1 2 3", "1 2 3", "2 3", "");
     }
 }

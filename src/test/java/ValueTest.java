@@ -3,11 +3,14 @@ public final class ValueTest {
     public static void main(String[] args) {
         noColumns();
         oneColumn();
-        partsWithoutDerivation();
-        splitsOfFork();
-        edgesOfParts();
-        wrongInputsAreRefused();
         textThatGrows();
+        noDerivation();
+        StateEdges.due("12", "value", (x, v) -> x.value(v, 0, 1));
+        beginsFromZeroOn();
+        lettersFromZeroOn();
+        partsEndInTheText();
+        longestPart();
+        Check.sentence("12: The value of state v and the part of the text");
         allDerivationsTried("", 2, 3);
         allDerivationsTried(".", 2, 3);
         allDerivationsTried("()", 3, 3);
@@ -19,6 +22,7 @@ public final class ValueTest {
 
     /** Two rows: inserts on the right cost LOG(1, 5), then LOG(1, 2) for each step from IR. */
     private static void noColumns() {
+        Check.sentence("12: The value of state v and the part of the text");
         FoldedFamily x = Check.built(2, "");
         x.feed(0b11100100, 4);
         int[] due = {-6, -27, -35, -43, -51};
@@ -46,7 +50,8 @@ public final class ValueTest {
         Check.due("value(0, 0, 2): S, ML, IL, E", x.value(0, 0, 2), -11 + 5 - 13 - 8);
     }
 
-    private static void partsWithoutDerivation() {
+    private static void noDerivation() {
+        Check.sentence("12: NONE when it has no derivation");
         FoldedFamily x = Check.built(1, "()");
         x.feed(0, 3);
         int[] shortest = {0, 1, 1, 2, 1, 1, 0, 1, 1, 0};
@@ -59,58 +64,84 @@ public final class ValueTest {
         }
     }
 
-    /** B puts two parts together; the second may be empty, and so may the first. */
-    private static void splitsOfFork() {
-        FoldedFamily x = Check.built(4, "()()", 0, 01111, 02222, 03333);
-        x.feed(0b11100100, 4);
-        x.feed(0b11100100, 4);
-        Check.due("value(3, 0, 4)", x.value(3, 0, 4), x.value(4, 0, 2) + x.value(12, 2, 2));
-        Check.due("value(3, 2, 2), first part empty", x.value(3, 2, 2),
-                x.value(4, 2, 0) + x.value(12, 2, 2));
-        Check.due("value(3, 0, 2), second part empty", x.value(3, 0, 2),
-                x.value(4, 0, 2) + x.value(12, 2, 0));
-        Check.due("value(3, 0, 0), both empty", x.value(3, 0, 0),
-                x.value(4, 0, 0) + x.value(12, 0, 0));
-    }
-
-    private static void edgesOfParts() {
-        FoldedFamily x = Check.built(2, "");
-        Check.due("value(0, 0, 0) of no text", x.value(0, 0, 0), -6);
-        Check.due("value(0, 1, 0) of no text", x.value(0, 1, 0), Check.NONE);
-        Check.due("value(0, 0, 1) of no text", x.value(0, 0, 1), Check.NONE);
-        x.feed(0, 12);
-        x.feed(0, 12);
-        Check.due("value(0, 0, 12)", x.value(0, 0, 12), -27 - 11 * 8);
-        Check.due("value(0, 12, 12)", x.value(0, 12, 12), -27 - 11 * 8);
-        Check.due("value(0, 0, 13)", x.value(0, 0, 13), Check.NONE);
-        Check.due("value(0, 0, 24)", x.value(0, 0, 24), Check.NONE);
-        Check.due("value(0, 13, 12)", x.value(0, 13, 12), Check.NONE);
-        Check.due("value(0, 23, 1)", x.value(0, 23, 1), -27);
-        Check.due("value(0, 23, 2)", x.value(0, 23, 2), Check.NONE);
-        Check.due("value(0, 24, 0)", x.value(0, 24, 0), -6);
-        Check.due("value(0, 24, 1)", x.value(0, 24, 1), Check.NONE);
-        Check.due("value(0, 25, 0)", x.value(0, 25, 0), Check.NONE);
-    }
-
-    private static void wrongInputsAreRefused() {
+    private static FoldedFamily withText() {
         FoldedFamily x = Check.built(2, "");
         x.feed(0, 4);
-        int least = Integer.MIN_VALUE;
-        int most = Integer.MAX_VALUE;
-        for (int wrong : new int[] {-1, least, most, most - 1}) {
-            Check.due("value(" + wrong + ", 0, 0)", x.value(wrong, 0, 0), Check.NONE);
-            Check.due("value(0, " + wrong + ", 0)", x.value(0, wrong, 0), Check.NONE);
-            Check.due("value(0, " + wrong + ", 1)", x.value(0, wrong, 1), Check.NONE);
-            Check.due("value(0, " + wrong + ", 12)", x.value(0, wrong, 12), Check.NONE);
-            Check.due("value(0, 0, " + wrong + ")", x.value(0, 0, wrong), Check.NONE);
-            Check.due("value(0, 4, " + wrong + ")", x.value(0, 4, wrong), Check.NONE);
-            Check.due("value(0, wrong, wrong)", x.value(0, wrong, wrong), Check.NONE);
+        return x;
+    }
+
+    private static void beginsFromZeroOn() {
+        Check.sentence("12: NONE when there is no such part (i from 0 on)");
+        FoldedFamily x = withText();
+        Check.due("value(0, 0, 1)", x.value(0, 0, 1), -27);
+        for (int i : Check.outside(4)) {
+            for (int d : new int[] {0, 1, 4, 12}) {
+                Check.dueNone("value(0, " + i + ", " + d + ")", x.value(0, i, d));
+            }
         }
-        Check.due("value(0, least, most)", x.value(0, least, most), Check.NONE);
-        Check.due("value(0, most, least)", x.value(0, most, least), Check.NONE);
-        Check.due("value(4, 0, 0)", x.value(4, 0, 0), Check.NONE);
-        x.column('.', 0);
-        Check.due("value(0, 0, 0) without a grammar", x.value(0, 0, 0), Check.NONE);
+        for (int i = -26; i < 0; i++) {
+            Check.dueNone("value(3, " + i + ", 0)", x.value(3, i, 0));
+            Check.dueNone("value(0, " + i + ", 12), which may end in the text", x.value(0, i, 12));
+        }
+        Check.dueNone("value(0, -1, 5), which ends in the text", x.value(0, -1, 5));
+    }
+
+    private static void lettersFromZeroOn() {
+        Check.sentence("12: NONE when there is no such part (d from 0 on)");
+        FoldedFamily x = withText();
+        Check.due("value(0, 2, 0)", x.value(0, 2, 0), -6);
+        for (int d : Check.outside(12)) {
+            for (int i : new int[] {0, 2, 4}) {
+                Check.dueNone("value(0, " + i + ", " + d + ")", x.value(0, i, d));
+            }
+        }
+        for (int d = -26; d < 0; d++) {
+            for (int i = 0; i <= 4; i += 2) {
+                Check.dueNone("value(3, " + i + ", " + d + ")", x.value(3, i, d));
+            }
+        }
+        Check.dueNone("value(0, 5, -1), which ends in the text", x.value(0, 5, -1));
+        Check.dueNone("value(0, least, most)", x.value(0, Integer.MIN_VALUE, Integer.MAX_VALUE));
+        Check.dueNone("value(0, most, least)", x.value(0, Integer.MAX_VALUE, Integer.MIN_VALUE));
+        Check.dueNone("value(0, most, most)", x.value(0, Integer.MAX_VALUE, Integer.MAX_VALUE));
+    }
+
+    /** A part may end just behind the last letter, and an empty one may begin there. */
+    private static void partsEndInTheText() {
+        Check.sentence("12: NONE when there is no such part: the text ends before the part");
+        FoldedFamily x = Check.built(2, "");
+        for (int length = 0; length <= 24; length++) {
+            dueEnds(x, length, 0);
+            dueEnds(x, length, Math.min(1, length));
+            dueEnds(x, length, Math.min(12, length));
+            x.feed(0, 1);
+        }
+    }
+
+    /** With d letters at the end of a text of this length, and one farther on. */
+    private static void dueEnds(FoldedFamily x, int length, int d) {
+        int due = d == 0 ? -6 : -27 - 8 * (d - 1);
+        Check.due(length + " letters: value(0, " + (length - d) + ", " + d + ")",
+                x.value(0, length - d, d), due);
+        Check.dueNone(length + " letters: value(0, " + (length - d + 1) + ", " + d + ")",
+                x.value(0, length - d + 1, d));
+        Check.dueNone(length + " letters: value(0, " + (length - d) + ", " + (d + 1) + ")",
+                x.value(0, length - d, d + 1));
+    }
+
+    private static void longestPart() {
+        Check.sentence("12: NONE when d is above 12");
+        FoldedFamily x = Check.built(2, "");
+        x.feed(0, 12);
+        x.feed(0, 12);
+        for (int i = 0; i <= 12; i++) {
+            Check.due("value(0, " + i + ", 12)", x.value(0, i, 12), -27 - 11 * 8);
+            for (int v = 0; v < 4; v++) {
+                for (int d : new int[] {13, 14, 23, 24, 25}) {
+                    Check.dueNone("value(" + v + ", " + i + ", " + d + ")", x.value(v, i, d));
+                }
+            }
+        }
     }
 
     /** What was asked while the text was short must not be wrong when it is longer or another. */
@@ -139,29 +170,32 @@ public final class ValueTest {
 
     /** Each derivation is tried, by what the program tells of its grammar, without any memory. */
     private static void allDerivationsTried(String marks, int rows, int longest) {
-        FoldedFamily x = Check.built(rows, marks, 04210, 01412, 00041, 03310);
         String text = "01220310";
-        Check.feedAll(x, text);
-        for (int v = 0; x.kind(v) != Check.NONE; v++) {
+        Renewed x = new Renewed(() -> {
+            FoldedFamily made = Check.built(rows, marks, 04210, 01412, 00041, 03310);
+            Check.feedAll(made, text);
+            return made;
+        });
+        for (int v = 0; x.next().kind(v) != Check.NONE; v++) {
             for (int d = 0; d <= longest; d++) {
                 for (int i = 0; i + d <= text.length(); i += 2) {
                     Check.due(marks + ": value(" + v + ", " + i + ", " + d + ")",
-                            x.value(v, i, d), tried(x, v, text.substring(i, i + d)));
+                            x.next().value(v, i, d), tried(x, v, text.substring(i, i + d)));
                 }
             }
         }
     }
 
-    private static int tried(FoldedFamily x, int v, String part) {
-        int kind = x.kind(v);
+    private static int tried(Renewed x, int v, String part) {
+        int kind = x.next().kind(v);
         int best = Check.NONE;
         if (kind == 8) {
             return part.isEmpty() ? 0 : best;
         }
         if (kind == 7) {
             for (int cut = 0; cut <= part.length(); cut++) {
-                int one = tried(x, x.target(v, 0), part.substring(0, cut));
-                int other = tried(x, x.target(v, 1), part.substring(cut));
+                int one = tried(x, x.next().target(v, 0), part.substring(0, cut));
+                int other = tried(x, x.next().target(v, 1), part.substring(cut));
                 best = one == Check.NONE || other == Check.NONE ? best : Math.max(best, one + other);
             }
             return best;
@@ -176,11 +210,11 @@ public final class ValueTest {
         int letters = 0;
         if (before || behind) {
             int last = part.charAt(part.length() - 1) - '0';
-            letters = x.emits(v, before ? part.charAt(0) - '0' : last, last);
+            letters = x.next().emits(v, before ? part.charAt(0) - '0' : last, last);
         }
-        for (int k = 0; x.target(v, k) != Check.NONE; k++) {
-            int rest = tried(x, x.target(v, k), part.substring(from, to));
-            best = rest == Check.NONE ? best : Math.max(best, letters + x.step(v, k) + rest);
+        for (int k = 0; x.next().target(v, k) != Check.NONE; k++) {
+            int rest = tried(x, x.next().target(v, k), part.substring(from, to));
+            best = rest == Check.NONE ? best : Math.max(best, letters + x.next().step(v, k) + rest);
         }
         return best;
     }
