@@ -109,6 +109,14 @@ final class Check {
         return x;
     }
 
+    /** One column that is no gap, and a scan whose four hits are single letters. */
+    static FoldedFamily scannedColumn() {
+        FoldedFamily x = built(1, ".", 2);
+        feedAll(x, "0212");
+        x.scan(1, -1000);
+        return x;
+    }
+
     /** Letters that are not given are 0: letter 0 in every row. */
     static void addColumns(FoldedFamily x, String marks, int... letters) {
         for (int c = 0; c < marks.length(); c++) {

@@ -11,16 +11,9 @@ public final class DerivedTest {
         Check.end();
     }
 
-    private static FoldedFamily scanned() {
-        FoldedFamily x = Check.built(1, ".", 2);
-        Check.feedAll(x, "0212");
-        x.scan(1, -1000);
-        return x;
-    }
-
     private static void oneColumn() {
         Check.sentence("15: written from the S of ROOT on, each state before what it steps to");
-        FoldedFamily x = scanned();
+        FoldedFamily x = Check.scannedColumn();
         Check.dueRow("hit 0", Check.derivation(x, 0), "0@1+1 3@1+1 6@2+0");
         Check.dueRow("hit 3", Check.derivation(x, 3), "0@2+1 3@2+1 6@3+0");
         Check.dueRow("hit 1, E behind the last letter", Check.derivation(x, 1),
@@ -82,7 +75,7 @@ public final class DerivedTest {
 
     private static void noSuchPlace() {
         Check.sentence("15: NONE when there is none: no state at place n");
-        FoldedFamily x = scanned();
+        FoldedFamily x = Check.scannedColumn();
         Check.due("derived(1, 2, 0), the last", x.derived(1, 2, 0), 6);
         Check.due("derived(1, 2, 2)", x.derived(1, 2, 2), 0);
         for (int n : Check.outside(2)) {
@@ -103,7 +96,7 @@ public final class DerivedTest {
 
     private static void wrongWhat() {
         Check.sentence("15: NONE when what is not 0 .. 2");
-        FoldedFamily x = scanned();
+        FoldedFamily x = Check.scannedColumn();
         for (int what : Check.outside(2)) {
             for (int n = 0; n < 3; n++) {
                 Check.dueNone("derived(0, " + n + ", " + what + ")", x.derived(0, n, what));

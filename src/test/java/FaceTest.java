@@ -52,13 +52,28 @@ public final class FaceTest {
         Collections.sort(face);
         Check.dueRow("the face", face.toString(), FACE.toString());
         Check.due("the class is final", Modifier.isFinal(type.getModifiers()), true);
+        duePrivateNamesOfTheirOwn(type);
         for (Class<?> inside : type.getDeclaredClasses()) {
             boolean hidden = !Modifier.isPublic(inside.getModifiers())
                     && !Modifier.isProtected(inside.getModifiers());
             Check.due(inside + " is static and hidden",
                     hidden && Modifier.isStatic(inside.getModifiers()), true);
+            duePrivateNamesOfTheirOwn(inside);
         }
         Check.end();
+    }
+
+    /** Rule 1 of LANGUAGE.md: no private method bears the name of a public one. */
+    private static void duePrivateNamesOfTheirOwn(Class<?> type) {
+        for (Method method : type.getDeclaredMethods()) {
+            if (Modifier.isPrivate(method.getModifiers())) {
+                boolean isOfFace = false;
+                for (Method open : FoldedFamily.class.getMethods()) {
+                    isOfFace |= open.getName().equals(method.getName());
+                }
+                Check.due(method + " bears a name of the face", isOfFace, false);
+            }
+        }
     }
 
     private static String parameters(Class<?>[] types) {

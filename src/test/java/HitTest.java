@@ -9,20 +9,13 @@ public final class HitTest {
         Check.end();
     }
 
-    private static FoldedFamily scanned() {
-        FoldedFamily x = Check.built(1, ".", 2);
-        Check.feedAll(x, "0212");
-        x.scan(1, -1000);
-        return x;
-    }
-
     private static void dueHit(FoldedFamily x, int k, String due) {
         Check.dueRow("hit " + k, Check.row(what -> x.hit(k, what)), due);
     }
 
     private static void whatIsTold() {
         Check.sentence("14: where it begins (0), how many letters (1), its score (2), states (3)");
-        FoldedFamily x = scanned();
+        FoldedFamily x = Check.scannedColumn();
         dueHit(x, 0, "1 1 -11 3");
         dueHit(x, 1, "3 1 -11 3");
         dueHit(x, 2, "0 1 -19 3");
@@ -74,7 +67,7 @@ public final class HitTest {
 
     private static void wrongWhat() {
         Check.sentence("14: NONE when what is not 0 .. 3");
-        FoldedFamily x = scanned();
+        FoldedFamily x = Check.scannedColumn();
         for (int k = 0; k < 4; k++) {
             for (int what : Check.outside(3)) {
                 Check.dueNone("hit(" + k + ", " + what + ")", x.hit(k, what));
